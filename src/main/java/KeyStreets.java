@@ -34,10 +34,10 @@ public final class KeyStreets {
     private static final long NO_TUNE = 0L;
 
     private final Page page = new Page();
-    private final City city = new City();
-    private final Now now = new Now();
+    private final Walks walks = new Walks();
+    private final City city = walks.city;
+    private final Now now = walks.now;
     private final Now image = new Now();
-    private final Walks walks = new Walks(city, now);
     /** How often a city was read; it tells one city from the next, too. */
     private int reads;
     /** What reads was when the image was kept; 0: none was kept. */
@@ -370,7 +370,12 @@ public final class KeyStreets {
     public long digest() {
         long h = 1187L;
         for (int street = 0; street < city.size; street++) {
-            h = digestStreet(h, street);
+            for (int what = 0; what <= LAST_STREET_WHAT; what++) {
+                h = mix(h, street(street, what));
+            }
+            for (int note = 0; note < NOTES; note++) {
+                h = mix(h, comes(street, note));
+            }
         }
         for (int which = CARRIED; which <= TOLD_OF; which++) {
             h = digestTune(h, which);
@@ -386,17 +391,6 @@ public final class KeyStreets {
             h = mix(h, count(what));
         }
         return h;
-    }
-
-    private long digestStreet(long h, int street) {
-        long mixed = h;
-        for (int what = 0; what <= LAST_STREET_WHAT; what++) {
-            mixed = mix(mixed, street(street, what));
-        }
-        for (int note = 0; note < NOTES; note++) {
-            mixed = mix(mixed, comes(street, note));
-        }
-        return mixed;
     }
 
     private long digestTune(long h, int which) {
@@ -525,8 +519,9 @@ public final class KeyStreets {
             return length;
         }
 
-        static int degree(int note, int tonic) {
-            return Math.floorMod(note - tonic, NOTES);
+        /** By how many a note is above another one, 0 to 11; both are 0 to 11. */
+        static int above(int note, int other) {
+            return (note - other + NOTES) % NOTES;
         }
 
         static int tritones(long tune) {
@@ -564,10 +559,11 @@ public final class KeyStreets {
 
         static int inKey(long tune, int key) {
             int scale = key < NOTES ? MAJOR : MINOR;
+            int tonic = key % NOTES;
             int length = length(tune);
             int has = 0;
             for (int place = 0; place < length; place++) {
-                has += scale >> degree(note(tune, place), key) & 1;
+                has += scale >> above(note(tune, place), tonic) & 1;
             }
             return has;
         }
@@ -616,8 +612,7 @@ public final class KeyStreets {
 
         final long carry(long tune, int tonic) {
             long made = NO_TUNE;
-            int length = Tunes.length(tune);
-            for (int place = 0; place < length; place++) {
+            for (int place = 0; place < MOST_NOTES && Tunes.note(tune, place) != NONE; place++) {
                 made = Tunes.with(made, place, heard(tune, place, tonic));
             }
             return made;
@@ -625,13 +620,14 @@ public final class KeyStreets {
 
         /** As carry and ==, but it ends at the first unlike note: the way asks it most often. */
         final boolean makes(long tune, int tonic, long wanted) {
-            int length = Tunes.length(tune);
-            for (int place = 0; place < length; place++) {
+            int place = 0;
+            while (place < MOST_NOTES && Tunes.note(tune, place) != NONE) {
                 if (heard(tune, place, tonic) != Tunes.note(wanted, place)) {
                     return false;
                 }
+                place++;
             }
-            return Tunes.note(wanted, length) == NONE;
+            return Tunes.note(wanted, place) == NONE;
         }
 
         final int alone(int note, int tonic) {
@@ -644,17 +640,15 @@ public final class KeyStreets {
             super(one, other);
         }
 
-        @Override
         int kind() {
             return KIND_MINOR;
         }
 
-        @Override
         int heard(long tune, int place, int tonic) {
             int note = Tunes.note(tune, place);
-            int degree = Tunes.degree(note, tonic);
+            int degree = Tunes.above(note, tonic);
             boolean lowered = degree == 4 || degree == 9 || degree == 11;
-            return lowered ? Tunes.degree(note, 1) : note;
+            return lowered ? (note + NOTES - 1) % NOTES : note;
         }
     }
 
@@ -663,16 +657,14 @@ public final class KeyStreets {
             super(one, other);
         }
 
-        @Override
         int kind() {
             return KIND_PICARDY;
         }
 
-        @Override
         int heard(long tune, int place, int tonic) {
             int note = super.heard(tune, place, tonic);
             boolean last = Tunes.note(tune, place + 1) == NONE;
-            return last && Tunes.degree(note, tonic) == 3 ? (tonic + 4) % NOTES : note;
+            return last && Tunes.above(note, tonic) == 3 ? (tonic + 4) % NOTES : note;
         }
     }
 
@@ -681,17 +673,14 @@ public final class KeyStreets {
             super(one, other);
         }
 
-        @Override
         int kind() {
             return KIND_BRIDGE;
         }
 
-        @Override
         int heard(long tune, int place, int tonic) {
-            return Tunes.degree(tonic, Tunes.note(tune, place));
+            return Tunes.above(tonic, Tunes.note(tune, place));
         }
 
-        @Override
         boolean open(long tune, boolean night) {
             return !night || Tunes.tritones(tune) == 0;
         }
@@ -702,12 +691,10 @@ public final class KeyStreets {
             super(one, other);
         }
 
-        @Override
         int kind() {
             return KIND_POLICE;
         }
 
-        @Override
         int heard(long tune, int place, int tonic) {
             return Tunes.note(tune, 0);
         }
@@ -902,8 +889,10 @@ public final class KeyStreets {
         int seen;
 
         void enter(Page page, int streets) {
-            for (int street = 0; street < streets && street < MOST_STREETS; street++) {
-                tonics[street] = page.tonicOf(street);
+            for (int street = 0; street < streets; street++) {
+                setTonic(street, page.tonicOf(street));
+            }
+            for (int street = 0; street < streetWalks.length; street++) {
                 streetWalks[street] = 0;
             }
             corner = 0;
@@ -987,8 +976,8 @@ public final class KeyStreets {
         private static final int SLOTS = 1024;
         private static final long TWO_TO_31 = 1L << 31;
 
-        private final City city;
-        private final Now now;
+        final City city = new City();
+        final Now now = new Now();
         private final int[] wayStreets = new int[LONGEST_WAY];
         /** The unlike tunes that were met, each in a slot by its number: 512 at most. */
         private final long[] slots = new long[SLOTS];
@@ -997,11 +986,6 @@ public final class KeyStreets {
         int wanderHits;
         int wanderEnd;
         long wanderSeed;
-
-        Walks(City city, Now now) {
-            this.city = city;
-            this.now = now;
-        }
 
         /** The street of this number, if one can go through it from the corner with the tune; else null. */
         private Street passage(int corner, int street, long tune) {
@@ -1054,19 +1038,23 @@ public final class KeyStreets {
         }
 
         private boolean seekWay(long tune, int corner, int depth, int length) {
-            if (depth < 0 || depth >= length || depth >= LONGEST_WAY) {
+            if (depth < 0 || depth >= length || depth >= wayStreets.length) {
                 return false;
             }
             boolean last = depth == length - 1;
             for (int street = 0; street < city.size; street++) {
                 Street through = passage(corner, street, tune);
-                if (through != null && (last
-                        ? through.makes(tune, now.tonic(street), now.toldOf)
-                        : seekWay(through.carry(tune, now.tonic(street)), through.across(corner), depth + 1, length))) {
+                if (through == null) {
+                    continue;
+                }
+                int tonic = now.tonic(street);
+                int end = through.across(corner);
+                boolean found = last
+                        ? through.makes(tune, tonic, now.toldOf)
+                        : seekWay(through.carry(tune, tonic), end, depth + 1, length);
+                if (found) {
                     wayStreets[depth] = street;
-                    if (last) {
-                        wayEnd = through.across(corner);
-                    }
+                    wayEnd = last ? end : wayEnd;
                     return true;
                 }
             }
@@ -1074,12 +1062,12 @@ public final class KeyStreets {
         }
 
         int wayStreet(int manieth, int length) {
-            return manieth >= 0 && manieth < length && manieth < LONGEST_WAY ? wayStreets[manieth] : NONE;
+            return manieth >= 0 && manieth < length && manieth < wayStreets.length ? wayStreets[manieth] : NONE;
         }
 
         int tunesBehind(int streets) {
             met = 0;
-            for (int slot = 0; slot < SLOTS; slot++) {
+            for (int slot = 0; slot < slots.length; slot++) {
                 slots[slot] = NO_TUNE;
             }
             meetTunes(now.carried, now.corner, Math.min(streets, MOST_BECOME));
@@ -1100,9 +1088,12 @@ public final class KeyStreets {
         }
 
         private void meet(long tune) {
-            int start = (int) ((tune ^ tune >>> 11 ^ tune >>> 21) & SLOTS - 1);
-            for (int step = 0; step < SLOTS; step++) {
-                int slot = start + step & SLOTS - 1;
+            // A prime, so that each note of the tune tells in the slot.
+            int slot = (int) (tune % 1021L);
+            for (int tried = 0; tried < SLOTS; tried++) {
+                if (slot < 0 || slot >= slots.length) {
+                    slot = 0;
+                }
                 if (slots[slot] == tune) {
                     return;
                 }
@@ -1111,6 +1102,7 @@ public final class KeyStreets {
                     met++;
                     return;
                 }
+                slot++;
             }
         }
 
