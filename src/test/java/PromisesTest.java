@@ -385,8 +385,6 @@ public final class PromisesTest {
         KeyStreets x = Checks.withTunes("2;s01b,s01b", "a", "");
         for (int i = 1; i <= 999; i++) C.due("11 walk " + i, x.walk(i % 2), i % 2);
         C.due("11 999 were walked", x.walk(0), FULL);
-        x.forget();
-        x.stand(0);
         C.due("11 999 were walked, street", x.walk(2), UNKNOWN);
         C.due("11 walked", x.count(6), 999);
     }
@@ -546,7 +544,6 @@ public final class PromisesTest {
         C.due("19 by day", night.near(), 0);
         night.dusk();
         C.due("19 by night", night.near(), 1);
-        night.raise(1, 0);
         KeyStreets closed = Checks.withTunes("2;b01g,b01b", "ag", "ga");
         closed.dusk();
         C.due("19 one can go nowhere", closed.near(), NONE);
