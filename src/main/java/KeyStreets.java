@@ -526,8 +526,8 @@ public final class KeyStreets {
 
         static int tritones(long tune) {
             int tritones = 0;
-            int length = length(tune);
-            for (int place = 1; place < length; place++) {
+            // Not by length(): calls from digest() would go nine deep.
+            for (int place = 1; place < MOST_NOTES && note(tune, place) != NONE; place++) {
                 if (Math.abs(note(tune, place) - note(tune, place - 1)) == 6) {
                     tritones++;
                 }
