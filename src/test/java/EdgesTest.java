@@ -33,6 +33,7 @@ public final class EdgesTest {
         streetLeavesNoneAndAll();
         streetAgainOnceAndNever();
         streetTonicsAllOneNone();
+        streetAskOfTwoTonics();
         walkFull();
         standFirstAndLast();
         singFirstAndLast();
@@ -41,6 +42,7 @@ public final class EdgesTest {
         wayFirstByNumbers();
         waySixteenTimes();
         becomeNoneToThree();
+        becomeOneOfEachTune();
         becomeMost();
         apartNoneToEight();
         nearLikeOnesAndNone();
@@ -525,6 +527,19 @@ public final class EdgesTest {
         C.due("m, ask", x.street(0, 7), 2);
     }
 
+    /** "so that fewest of these are left at worst": each tonic counts, the least and the greatest too. */
+    private static void streetAskOfTwoTonics() {
+        for (int t = 0; t < 12; t++) {
+            KeyStreets x = Checks.inCity("2;m01a,m01a");
+            // Degree 4 is lowered, so it begins from t, or 5 or 7 above that; degree 2 is not: 5 above it is out.
+            x.see(0, (t + 4) % 12, (t + 3) % 12);
+            x.see(0, (t + 2) % 12, (t + 2) % 12);
+            C.due("two tonics", x.street(0, 6), 1 << t | 1 << (t + 7) % 12);
+            // Degrees 4, 9, 11 above the one are lowered, and 11, 4, 6 above the other: 6 and 9 tell them apart.
+            C.due("ask, two tonics", x.street(0, 7), Math.min((t + 6) % 12, (t + 9) % 12));
+        }
+    }
+
     // ---- what is done
 
     /** "FULL: 999 were walked": beyond the 512 calls that are promised, but the sentence is there. */
@@ -683,6 +698,20 @@ public final class EdgesTest {
         KeyStreets night = Checks.withTunes("2;b01a,b10b", "ag", "");
         night.dusk();
         for (int n = 0; n <= 3; n++) C.due("closed, " + n, night.become(n), n == 0 ? 1 : 0);
+    }
+
+    /** Behind no street each tune is one, also when it is asked again: every tune of four notes. */
+    private static void becomeOneOfEachTune() {
+        for (int tune = 0; tune < 1728; tune++) {
+            KeyStreets x = Checks.withTunes(SHORTEST, "aaaa", "");
+            x.sing(0, 0, tune % 12);
+            x.sing(0, 1, tune / 12 % 12);
+            x.sing(0, 2, tune / 144);
+            for (int last = 0; last < 12; last++) {
+                x.sing(0, 3, last);
+                for (int i = 0; i < 2; i++) C.due("become(0) of " + tune + ", " + last, x.become(0), 1);
+            }
+        }
     }
 
     private static final String MANY = "2;m01j,i01i,m01k,b01f,m01l,i01f,s01e,b01d";
