@@ -716,23 +716,32 @@ public final class EdgesTest {
 
     private static final String MANY = "2;m01j,i01i,m01k,b01f,m01l,i01f,s01e,b01d";
 
-    /** Eight streets from either corner: 512 walks of three, each done here, by day and by night. */
-    private static void becomeMost() {
-        for (int night = 0; night < 2; night++) {
-            Set<String> unlike = new HashSet<>();
-            for (int walk = 0; walk < 512; walk++) {
-                KeyStreets x = Checks.withTunes(MANY, "ljbafkei", "");
-                if (night == 1) x.dusk();
-                if (x.walk(walk / 64) >= 0 && x.walk(walk / 8 % 8) >= 0 && x.walk(walk % 8) >= 0) {
-                    unlike.add(Checks.tuneOf(x, 0));
-                }
+    private static KeyStreets inMany(String city, String tune, boolean night) {
+        KeyStreets x = Checks.withTunes(city, tune, "");
+        if (night) x.dusk();
+        return x;
+    }
+
+    /** Eight streets from either corner: 512 walks of three, each done here; how many tunes came out. */
+    private static int dueMany(String city, String tune, boolean night) {
+        Set<String> unlike = new HashSet<>();
+        for (int walk = 0; walk < 512; walk++) {
+            KeyStreets x = inMany(city, tune, night);
+            if (x.walk(walk / 64) >= 0 && x.walk(walk / 8 % 8) >= 0 && x.walk(walk % 8) >= 0) {
+                unlike.add(Checks.tuneOf(x, 0));
             }
-            KeyStreets x = Checks.withTunes(MANY, "ljbafkei", "");
-            if (night == 1) x.dusk();
-            C.due("become(3), many", x.become(3), unlike.size());
-            C.due("many by day", night == 0 ? unlike.size() : 362, 362);
-            C.due("once more", x.become(3), unlike.size());
         }
+        KeyStreets x = inMany(city, tune, night);
+        for (int i = 0; i < 2; i++) C.due("become(3) of " + tune + " in " + city, x.become(3), unlike.size());
+        return unlike.size();
+    }
+
+    private static void becomeMost() {
+        C.due("many by day", dueMany(MANY, "ljbafkei", false), 362);
+        dueMany(MANY, "ljbafkei", true);
+        // In these the class looks for room behind its last slot, and close to its first one.
+        dueMany("2;i01h,b01k,i01e,m01f,s01f,i01j,m01k,b01c", "hdkgacbg", false);
+        dueMany("2;m01a,b01c,i01k,m01e,b01f,b01b,b01i,m01g", "lkecbllc", false);
     }
 
     private static void dueApart(String one, String other, int want) {
